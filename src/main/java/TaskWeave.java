@@ -68,18 +68,22 @@ public final class TaskWeave {
     private static final int Y = 6;
 
     private final Parser parser = new Parser();
-    private final Clock clock = new Clock();
-    private final Shelf[] shelves = new Shelf[PROGRAMS];
+    private final Clock clock;
+    private final Shelf[] shelves;
     private final Shard[] shards = new Shard[SHARDS];
     private int tokens;
 
     public TaskWeave() {
+        Clock sharedClock = new Clock();
+        Shelf[] sharedShelves = new Shelf[PROGRAMS];
         for (int p = 0; p < PROGRAMS; p++) {
-            shelves[p] = new Shelf();
+            sharedShelves[p] = new Shelf();
         }
         for (int s = 0; s < SHARDS; s++) {
-            shards[s] = new Shard(s, clock, shelves);
+            shards[s] = new Shard(s, sharedClock, sharedShelves);
         }
+        clock = sharedClock;
+        shelves = sharedShelves;
     }
 
     // ---- Promises 2 to 4: the tape and the programs ----
@@ -1329,7 +1333,7 @@ public final class TaskWeave {
             disk.up = true;
             disk.size -= disk.size % RECORD;
             if (works()) {
-                makeAlike(disk);
+                makeAlike(disk, disks[leader]);
             }
         }
 
@@ -1341,8 +1345,7 @@ public final class TaskWeave {
             }
         }
 
-        private void makeAlike(Replica disk) {
-            Replica log = disks[leader];
+        private void makeAlike(Replica disk, Replica log) {
             int place = 0;
             int common = Math.min(disk.size, log.size) / RECORD;
             while (place < common && disk.sameRecord(log, place)) {
@@ -1356,7 +1359,7 @@ public final class TaskWeave {
         void settle() {
             for (int i = 0; i <= REPLICAS_MAX && !works() && mostAreUp(); i++) {
                 if (elect()) {
-                    readLog();
+                    readLog(disks[leader]);
                     for (int n = 0; n < count && works(); n++) {
                         goOn(rows[n]);
                     }
@@ -1364,12 +1367,13 @@ public final class TaskWeave {
             }
         }
 
+        /** True if the new leader's own record is done. */
         private boolean elect() {
             term++;
             leader = candidate();
-            for (int r = 0; r < size; r++) {
+            for (int r = 0; r < size && works(); r++) {
                 if (r != leader && disks[r].up) {
-                    makeAlike(disks[r]);
+                    makeAlike(disks[r], disks[leader]);
                 }
             }
             return commit(LEADER, 0, leader, 0, 0);
@@ -1386,8 +1390,7 @@ public final class TaskWeave {
         }
 
         /** The steps between two events are gone ahead of the later one: a W or J then waits where it once did. */
-        private void readLog() {
-            Replica log = disks[leader];
+        private void readLog(Replica log) {
             count = 0;
             outbox.size = 0;
             for (int place = 0; place < log.size / RECORD; place++) {
