@@ -582,11 +582,9 @@ public final class TaskWeave {
         }
 
         private boolean accept(char c) {
-            if (peek() != c) {
-                return false;
-            }
-            at++;
-            return true;
+            boolean there = at < length && text[at] == c;
+            at += there ? 1 : 0;
+            return there;
         }
 
         private boolean readLabel(int step) {
@@ -718,7 +716,7 @@ public final class TaskWeave {
 
         int lastTerm() {
             int last = size - RECORD;
-            return last < 0 ? 0 : byteAt(last + 1) << 8 | byteAt(last + 2);
+            return last < 0 ? 0 : (bytes[last + 1] & 255) << 8 | bytes[last + 2] & 255;
         }
 
         /** Writes what stands in another row of bytes, up to where its power fails. */
