@@ -11,6 +11,7 @@ public final class MessageTest {
         targetDown();
         eventNotDone();
         goneNotDone();
+        signalBehindAStartThatStays();
         startOfAnEndedParent();
         parentIsFull();
         Checks.end();
@@ -203,6 +204,19 @@ public final class MessageTest {
         y.tick(1);
         Checks.due("the signal came once", Checks.history(y, 1), "0(1,0)@-1 8(3,0)@-3");
         Checks.due("it is gone", y.shard(0, 4), 0);
+    }
+
+    /** Its shard works again at once, but the child is none when the signal has its turn. */
+    private static void signalBehindAStartThatStays() {
+        TaskWeave x = Checks.with("b=C1(0);S(b,3);c=W;");
+        Checks.tell(x, 1, "b=W;");
+        x.start(0, 0, 0);
+        x.fuse(1, 0, 8);
+        x.tick(1);
+        Checks.due("the START stays", Checks.log(x, 0, 0), "0.0/0(0,0,0) 0.6/0(1,0,0) 0.9/0(0,3,0) 0.14/0(2,0,0)");
+        x.tick(1);
+        Checks.due("the child waits", Checks.history(x, 1), "0(1,0)@-1");
+        Checks.due("no message", x.shard(0, 4), 0);
     }
 
     private static void startOfAnEndedParent() {
