@@ -220,7 +220,7 @@ public final class TaskWeave {
             return false;
         }
         Shard home = shards[row.id % SHARDS];
-        boolean done = home.tryAgain(row);
+        boolean done = home.failTask(row);
         home.settle();
         return done;
     }
@@ -247,7 +247,7 @@ public final class TaskWeave {
         }
         int end = clock.now + n;
         for (int i = 0; i < n && clock.now != end; i++) {
-            long before = records();
+            long before = recordsTried();
             clock.now++;
             for (int s = 0; s < SHARDS; s++) {
                 shards[s].passTime();
@@ -255,7 +255,7 @@ public final class TaskWeave {
             for (int s = 0; s < SHARDS; s++) {
                 sendAll(shards[s]);
             }
-            if (records() == before) {
+            if (recordsTried() == before) {
                 clock.now = lastQuietTick(end);
             }
         }
@@ -393,15 +393,15 @@ public final class TaskWeave {
 
     // ---- Ticks ----
 
-    private long records() {
+    private long recordsTried() {
         long sum = 0;
         for (int s = 0; s < SHARDS; s++) {
-            sum += shards[s].written;
+            sum += shards[s].recordsTried;
         }
         return sum;
     }
 
-    /** Behind a tick in which no record was written nothing can change until a timer or a lease is due. */
+    /** Behind a tick in which no record was tried nothing can change until a timer or a lease is due. */
     private int lastQuietTick(int end) {
         int quiet = end;
         for (int w = 0; w < SHARDS * ROWS_MAX; w++) {
@@ -1119,7 +1119,7 @@ public final class TaskWeave {
         int leader;
         int term;
         int count;
-        long written;
+        long recordsTried;
 
         Shard(int number, Clock clock, Shelf[] shelves) {
             this.number = number;
@@ -1186,7 +1186,7 @@ public final class TaskWeave {
 
         /** True if the record is done; else there is no leader any more. */
         private boolean commit(int kind, int n, int a, int b, int c) {
-            written++;
+            recordsTried++;
             record[0] = (byte) (16 * n + kind);
             record[1] = (byte) (term >> 8);
             record[2] = (byte) term;
@@ -1269,8 +1269,7 @@ public final class TaskWeave {
             }
         }
 
-        /** A task fails. */
-        boolean tryAgain(Workflow w) {
+        boolean failTask(Workflow w) {
             int tries = w.task.tries + 1;
             if (tries >= TRIES_MAX) {
                 return bring(w, GIVEN_UP, VALUE_LOST, 0, 0);
@@ -1300,7 +1299,7 @@ public final class TaskWeave {
             for (int n = 0; n < count && works(); n++) {
                 Task task = rows[n].task;
                 if (rows[n].phase == WAITS_WORK && task.token > 0 && task.until <= clock.now) {
-                    tryAgain(rows[n]);
+                    failTask(rows[n]);
                     settle();
                 }
             }

@@ -8,6 +8,7 @@ public final class MessageTest {
         signalsToNone();
         endsToEnded();
         turns();
+        messageOfTheTurn();
         targetDown();
         eventNotDone();
         goneNotDone();
@@ -135,6 +136,25 @@ public final class MessageTest {
             111);
         Checks.due("shard 0 had its turn", y.shard(0, 3), 2);
         Checks.due("its message", y.shard(0, 4), 2);
+    }
+
+    /** The OVER that a signal makes in its sender's own shard is a message, too: the first behind the others. */
+    private static void messageOfTheTurn() {
+        TaskWeave x = Checks.with("b=C4(0);c=W;S(b,c);d=J(b);E(d);");
+        Checks.tell(x, 4, "b=A0(0);");
+        x.start(0, 0, 0);
+        x.tick(1);
+        for (int i = 0; i < 57; i++) {
+            x.signal(i, 4, i);
+        }
+        Checks.due("59 events", x.workflow(4, 2), 59);
+        x.signal(1, 0, 1);
+        x.tick(1);
+        Checks.due("it is over", x.event(4, 59, 0), 12);
+        Checks.due("its end has not come", x.workflow(0, 0), 3);
+        Checks.due("it is a message", x.shard(0, 4), 1);
+        x.tick(1);
+        Checks.due("it came in the next tick", x.workflow(0, 1), -1);
     }
 
     private static void targetDown() {

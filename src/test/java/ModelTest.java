@@ -15,6 +15,8 @@ public final class ModelTest {
         "b=C4(3);T(1);S(b,1);S(b,2);c=J(b);d=J(b);E(d);", "b=W;c=A3(b);S(-1,c);T(c);d=W;E(d);",
     };
 
+    private static final String SIGNS = "abhiACEGIJSTW0123789:;=+-*<(),x!";
+
     private final Random random;
     private final TaskWeave x = new TaskWeave();
     private final Model y = new Model();
@@ -88,8 +90,27 @@ public final class ModelTest {
         return text.toString();
     }
 
+    /** A good text with a few characters changed, left out or put in. */
+    private String spoiledText() {
+        StringBuilder text = new StringBuilder(chanceText()).append(chanceText());
+        for (int i = random.nextInt(3); i >= 0 && text.length() > 0; i--) {
+            int at = random.nextInt(text.length());
+            char c = SIGNS.charAt(random.nextInt(SIGNS.length()));
+            switch (random.nextInt(5)) {
+                case 0 -> text.deleteCharAt(at);
+                case 1 -> text.insert(at, c);
+                case 2 -> text.setLength(at);
+                default -> text.setCharAt(at, c);
+            }
+        }
+        return text.toString();
+    }
+
     private boolean tell(int p) {
-        String text = chanceText();
+        return tell(p, chanceText());
+    }
+
+    private boolean tell(int p, String text) {
         boolean good = true;
         for (int from = 0; from < text.length(); from += 8) {
             String part = text.substring(from, Math.min(text.length(), from + 8));
@@ -234,6 +255,10 @@ public final class ModelTest {
         int first = args.length > 3 ? Integer.parseInt(args[3]) : 1;
         for (int seed = first; seed < first + runs; seed++) {
             new ModelTest(seed).go(120);
+            ModelTest texts = new ModelTest(seed);
+            for (int i = 0; i < 40; i++) {
+                texts.tell(i % 8, texts.spoiledText());
+            }
         }
         Checks.end();
     }

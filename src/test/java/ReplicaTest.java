@@ -6,6 +6,7 @@ public final class ReplicaTest {
     public static void main(String[] args) {
         numbers();
         onlyAtFirst();
+        oneRecordOrATermAlone();
         renewed();
         powerArguments();
         majorities();
@@ -35,9 +36,9 @@ public final class ReplicaTest {
     }
 
     private static void onlyAtFirst() {
-        TaskWeave x = Checks.with("");
+        TaskWeave x = Checks.with("b=W;");
         x.start(0, 0, 0);
-        Checks.due("it has records", x.replicas(0, 3), false);
+        Checks.due("it has a record", x.replicas(0, 3), false);
         Checks.due("another shard", x.replicas(1, 4), true);
         x.power(1, 0, false);
         Checks.due("a term", x.shard(1, 1), 1);
@@ -52,6 +53,25 @@ public final class ReplicaTest {
         Checks.due("the term is 0 without a leader", x.shard(3, 1) * 10 + x.shard(3, 0), -1);
         Checks.due("no records", x.replicas(3, 5), true);
         Checks.due("it works", x.start(3, 0, 0), 3);
+    }
+
+    private static void oneRecordOrATermAlone() {
+        TaskWeave x = Checks.with("b=W;");
+        x.fuse(0, 1, 0);
+        x.fuse(0, 2, 0);
+        Checks.due("not done", x.start(0, 0, 0), -1);
+        Checks.due("no leader, term 0", x.shard(0, 0) * 10 + x.shard(0, 1), -10);
+        Checks.due("one replica has a whole record", x.replicas(0, 3), false);
+        Checks.due("nothing has changed", x.replica(0, 1, 0), 0);
+        x.fuse(1, 1, 5);
+        x.power(1, 0, false);
+        Checks.due("LEADER is not done, but it was of term 1", x.shard(1, 0) * 10 + x.shard(1, 1), -9);
+        Checks.due("no whole record", x.replica(1, 1, 1) + x.replica(1, 2, 1), 0);
+        Checks.due("another term", x.replicas(1, 3), false);
+        x.fuse(2, 1, 50);
+        x.power(2, 2, false);
+        Checks.due("replicas", x.replicas(2, 3), true);
+        Checks.due("no fuse, and up", x.replica(2, 1, 3) * 10 + x.replica(2, 2, 0), -9);
     }
 
     private static void renewed() {

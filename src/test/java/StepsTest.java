@@ -180,6 +180,18 @@ public final class StepsTest {
         x.finish(x.poll(0), 1);
         x.signal(1, 24, 0);
         Checks.due("a W that waited isn't", x.workflow(24, 1), 6);
+        for (int early = 0; early < 2; early++) {
+            TaskWeave y = Checks.with("b=C1(0);c=A0(0);d=J(b);0:a=a-1;I(a)0;e=1;E(d);");
+            Checks.tell(y, 1, "b=W;E(b);");
+            y.start(0, 0, 99);
+            y.tick(1);
+            y.poll(0);
+            Checks.due("finish", early == 1 || y.finish(1, 0), true);
+            y.signal(1, 1, 8);
+            y.tick(1);
+            Checks.due("finish", early == 0 || y.finish(1, 0), true);
+            Checks.due("a J that waited isn't, one that finds its end is", y.workflow(0, 1), early == 1 ? -1 : 8);
+        }
     }
 
     private static void sixtiethEvent() {
