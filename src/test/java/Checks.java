@@ -1,3 +1,8 @@
+import java.lang.reflect.InvocationTargetException;
+import java.lang.reflect.Method;
+import java.lang.reflect.Modifier;
+import java.util.Arrays;
+import java.util.Comparator;
 import java.util.Objects;
 import java.util.function.Supplier;
 
@@ -5,6 +10,7 @@ import java.util.function.Supplier;
 final class Checks {
     private static int wrong;
     private static int seen;
+    private static String current = "";
 
     private Checks() {
     }
@@ -14,7 +20,7 @@ final class Checks {
         if (!Objects.equals(got, want)) {
             wrong++;
             if (wrong <= 40) {
-                System.out.println(what + " answered " + got + ", due is " + want);
+                System.out.println(current + what + " answered " + got + ", due is " + want);
             }
         }
     }
@@ -29,6 +35,34 @@ final class Checks {
         due(what, got, want);
     }
 
+    /** Runs each static method of a class that takes nothing, and ends: none can be forgotten. */
+    static void runAll(Class<?> tests) {
+        int found = 0;
+        Method[] all = tests.getDeclaredMethods();
+        Arrays.sort(all, Comparator.comparing(Method::getName));
+        for (Method m : all) {
+            if (Modifier.isStatic(m.getModifiers()) && m.getParameterCount() == 0 && m.getReturnType() == void.class) {
+                found++;
+                current = m.getName() + ": ";
+                run(m);
+            }
+        }
+        current = "";
+        due("tests were found", found > 0, true);
+        end();
+    }
+
+    private static void run(Method m) {
+        try {
+            m.setAccessible(true);
+            m.invoke(null);
+        } catch (InvocationTargetException e) {
+            due("a call", e.getCause(), "an answer");
+        } catch (IllegalAccessException e) {
+            due("the test", e, "to be run");
+        }
+    }
+
     /** Ends the test: exit code 1 if an answer was not the one that is due. */
     static void end() {
         System.out.println(seen + " answers looked at, " + wrong + " wrong");
@@ -36,7 +70,7 @@ final class Checks {
     }
 
     /** Puts a text on the tape, in words of up to eight characters. */
-    static void put(TaskWeave x, String text) {
+    static void put(Weave x, String text) {
         for (int from = 0; from < text.length(); from += 8) {
             String part = text.substring(from, Math.min(text.length(), from + 8));
             due("type " + part, x.type(word(part), part.length()), true);
@@ -52,20 +86,34 @@ final class Checks {
     }
 
     /** Makes a text program p: how many steps. */
-    static int tell(TaskWeave x, int p, String text) {
+    static int tell(Weave x, int p, String text) {
         put(x, text);
         return x.program(p);
     }
 
     /** A new object with a program 0. */
-    static TaskWeave with(String text) {
-        TaskWeave x = new TaskWeave();
+    static Weave with(String text) {
+        Weave x = new Weave();
         tell(x, 0, text);
         return x;
     }
 
+    /** Takes power from replicas, the highest first, until the shard has no leader; replica 0 stays up. */
+    static void stop(Weave x, int s) {
+        for (int r = x.shard(s, 2) - 1; r > 0 && x.shard(s, 0) >= 0; r--) {
+            x.power(s, r, false);
+        }
+        due("the leader of shard " + s, x.shard(s, 0), -1);
+    }
+
+    /** Each whole number that lies next to an edge, and the ends of all ints. */
+    static int[] outside(int least, int greatest) {
+        return new int[] {Integer.MIN_VALUE, Integer.MIN_VALUE + 1, -least - 2, least - 1, greatest + 1, greatest + 2,
+            Integer.MAX_VALUE - 1, Integer.MAX_VALUE};
+    }
+
     /** All of a history, as kind(a,b) with its origin behind @ where it has one. */
-    static String history(TaskWeave x, int w) {
+    static String history(Weave x, int w) {
         StringBuilder text = new StringBuilder();
         for (int k = 0; k < x.workflow(w, 2); k++) {
             text.append(k == 0 ? "" : " ").append(x.event(w, k, 0)).append('(').append(x.event(w, k, 1)).append(',')
@@ -80,7 +128,7 @@ final class Checks {
     }
 
     /** Record number place of a replica, as n.kind/term(a,b,c). */
-    static String record(TaskWeave x, int s, int r, int place) {
+    static String record(Weave x, int s, int r, int place) {
         int[] bytes = new int[16];
         for (int i = 0; i < 16; i++) {
             bytes[i] = x.disk(s, r, place / 32, place % 32 * 16 + i);
@@ -95,7 +143,7 @@ final class Checks {
     }
 
     /** All whole records of a replica. */
-    static String log(TaskWeave x, int s, int r) {
+    static String log(Weave x, int s, int r) {
         StringBuilder text = new StringBuilder();
         for (int place = 0; place < x.replica(s, r, 1); place++) {
             text.append(place == 0 ? "" : " ").append(record(x, s, r, place));

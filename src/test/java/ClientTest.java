@@ -16,14 +16,14 @@ public final class ClientTest {
     }
 
     /** Leaves a shard of three with its replica 0 at most. */
-    private static void stop(TaskWeave x, int s) {
+    private static void stop(Weave x, int s) {
         x.power(s, 1, false);
         x.power(s, 2, false);
         Checks.due("it does not work", x.shard(s, 0), -1);
     }
 
     private static void starts() {
-        TaskWeave x = Checks.with("b=W;E(b);");
+        Weave x = Checks.with("b=W;E(b);");
         for (int s = 0; s < 4; s++) {
             Checks.due("start in shard " + s, x.start(s, 0, s), s);
             Checks.due("the second", x.start(400 + s, 0, s), s + 4);
@@ -56,7 +56,7 @@ public final class ClientTest {
     }
 
     private static void startsNotDone() {
-        TaskWeave x = Checks.with("E(1);");
+        Weave x = Checks.with("E(1);");
         x.fuse(0, 0, 15);
         Checks.due("the leader goes down in STARTED", x.start(0, 0, 0), -1);
         Checks.due("there is none", x.shard(0, 3), 0);
@@ -77,7 +77,7 @@ public final class ClientTest {
     }
 
     private static void signals() {
-        TaskWeave x = Checks.with("b=W;c=W;E(c);");
+        Weave x = Checks.with("b=W;c=W;E(c);");
         x.start(3, 0, 0);
         Checks.due("request -1", x.signal(-1, 3, 5), false);
         Checks.due("request least", x.signal(MIN, 3, 5), false);
@@ -100,7 +100,7 @@ public final class ClientTest {
     }
 
     private static void signalsNotDone() {
-        TaskWeave x = Checks.with("b=W;c=A0(b);");
+        Weave x = Checks.with("b=W;c=A0(b);");
         x.start(0, 0, 0);
         x.fuse(0, 0, 7);
         Checks.due("the leader goes down", x.signal(9, 0, 1), false);
@@ -117,7 +117,7 @@ public final class ClientTest {
     }
 
     private static void cancels() {
-        TaskWeave x = Checks.with("b=A0(1);E(b);");
+        Weave x = Checks.with("b=A0(1);E(b);");
         for (int w : new int[] {-1, 0, 1, 64, MIN, MAX}) {
             Checks.due("no workflow " + w, x.cancel(w), false);
         }
@@ -146,7 +146,7 @@ public final class ClientTest {
     }
 
     private static void queries() {
-        TaskWeave x = Checks.with("b=W;");
+        Weave x = Checks.with("b=W;");
         Checks.dueThrown("no workflow", NoSuchElementException.class, () -> x.query(0, 0));
         x.start(0, 0, -4);
         Checks.due("a", x.query(0, 0), -4);

@@ -6,7 +6,6 @@ public final class ElectionTest {
 
     public static void main(String[] args) {
         leaderRecord();
-        termsGrow();
         bestCandidate();
         losersRecordsGo();
         candidateGoesDown();
@@ -22,7 +21,7 @@ public final class ElectionTest {
     }
 
     private static void leaderRecord() {
-        TaskWeave x = Checks.with("b=W;");
+        Weave x = Checks.with("b=W;");
         x.replicas(0, 5);
         Checks.due("leader 0 of term 0 has no record", x.replica(0, 0, 1), 0);
         x.power(0, 0, false);
@@ -35,26 +34,9 @@ public final class ElectionTest {
         Checks.due("records have their term", Checks.record(x, 0, 3, 2), "0.0/2(0,5,0)");
     }
 
-    private static void termsGrow() {
-        TaskWeave x = Checks.with("b=W;");
-        for (int i = 1; i <= 130; i++) {
-            int leader = x.shard(0, 0);
-            x.power(0, leader, false);
-            x.power(0, leader, true);
-            x.power(0, x.shard(0, 0), false);
-            x.power(0, leader, true);
-            for (int r = 0; r < 3; r++) {
-                x.power(0, r, true);
-            }
-            Checks.due("the term", x.shard(0, 1), 2 * i);
-        }
-        int last = x.replica(0, 0, 1) - 1;
-        Checks.due("the term has two bytes", Checks.record(x, 0, 1, last), "0.13/260(" + x.shard(0, 0) + ",0,0)");
-    }
-
     /** The greatest term of a last record counts ahead of the number of records. */
     private static void bestCandidate() {
-        TaskWeave x = Checks.with("b=W;c=W;d=W;e=W;f=W;");
+        Weave x = Checks.with("b=W;c=W;d=W;e=W;f=W;");
         x.replicas(0, 5);
         x.start(0, 0, 0);
         x.power(0, 3, false);
@@ -85,7 +67,7 @@ public final class ElectionTest {
         Checks.due("the one with the most records, of the least numbers", x.shard(0, 0), 0);
         Checks.due("the log", Checks.log(x, 0, 3),
             "0.0/0(0,0,0) 0.13/1(1,0,0) 0.8/1(2,0,2) 0.13/2(2,0,0) 0.8/2(3,0,3) 0.13/3(0,0,0)");
-        TaskWeave y = Checks.with("b=W;c=W;d=W;");
+        Weave y = Checks.with("b=W;c=W;d=W;");
         y.start(0, 0, 0);
         y.power(0, 1, false);
         y.fuse(0, 2, 0);
@@ -101,7 +83,7 @@ public final class ElectionTest {
     }
 
     private static void losersRecordsGo() {
-        TaskWeave x = Checks.with("b=W;c=W;d=W;");
+        Weave x = Checks.with("b=W;c=W;d=W;");
         x.start(0, 0, 0);
         x.power(0, 1, false);
         x.fuse(0, 2, 3);
@@ -121,7 +103,7 @@ public final class ElectionTest {
 
     /** The one that is to be leader has a fuse: its LEADER is not done, and another election comes at once. */
     private static void candidateGoesDown() {
-        TaskWeave x = Checks.with("b=W;");
+        Weave x = Checks.with("b=W;");
         x.replicas(0, 5);
         x.start(0, 0, 0);
         x.fuse(0, 1, 4);
@@ -138,7 +120,7 @@ public final class ElectionTest {
     }
 
     private static void followersGoDownByAlike() {
-        TaskWeave x = Checks.with("b=W;c=W;d=W;e=W;");
+        Weave x = Checks.with("b=W;c=W;d=W;e=W;");
         x.replicas(0, 4);
         x.start(0, 0, 0);
         x.power(0, 3, false);
@@ -153,7 +135,7 @@ public final class ElectionTest {
         x.power(0, 2, true);
         Checks.due("leader 1 of term 2", x.shard(0, 0) * 10 + x.shard(0, 1), 12);
         Checks.due("the log", Checks.log(x, 0, 2), "0.0/0(0,0,0) 0.13/1(1,0,0) 0.13/2(1,0,0)");
-        TaskWeave y = Checks.with("b=W;c=W;d=W;e=W;");
+        Weave y = Checks.with("b=W;c=W;d=W;e=W;");
         y.replicas(0, 5);
         y.power(0, 3, false);
         y.power(0, 4, false);
@@ -174,7 +156,7 @@ public final class ElectionTest {
     }
 
     private static void noneIsLeft() {
-        TaskWeave x = Checks.with("b=W;");
+        Weave x = Checks.with("b=W;");
         x.start(0, 0, 0);
         x.start(4, 0, 0);
         for (int r = 0; r < 3; r++) {
@@ -192,7 +174,7 @@ public final class ElectionTest {
     private static void waitsAgain() {
         String text = "c=C1(0);d=C1(0);e=A0(0);b=W;f=J(c);0:a=a-1;I(a)0;g=W;h=J(d);E(h);";
         for (int early = 0; early < 2; early++) {
-            TaskWeave x = Checks.with(text);
+            Weave x = Checks.with(text);
             Checks.tell(x, 1, "b=W;E(b);");
             x.start(0, 0, 95);
             x.tick(1);
@@ -222,7 +204,7 @@ public final class ElectionTest {
 
     /** The steps since it last waited are counted from the events, too. */
     private static void stepsAreCountedAgain() {
-        TaskWeave x = Checks.with("b=W;0:a=a-1;I(a)0;c=C1(0);d=b;E(d);");
+        Weave x = Checks.with("b=W;0:a=a-1;I(a)0;c=C1(0);d=b;E(d);");
         x.start(0, 0, 98);
         x.fuse(0, 0, 32);
         Checks.due("the leader goes down behind CHILD", x.signal(1, 0, 6), true);
@@ -235,7 +217,7 @@ public final class ElectionTest {
     }
 
     private static void goOnByNumbers() {
-        TaskWeave x = Checks.with("b=W;c=A0(b);");
+        Weave x = Checks.with("b=W;c=A0(b);");
         x.start(0, 0, 0);
         x.start(4, 0, 0);
         x.fuse(0, 1, 0);
@@ -244,7 +226,7 @@ public final class ElectionTest {
         x.power(0, 1, true);
         Checks.due("done by the election, it went on", Checks.log(x, 0, 1),
             "0.0/0(0,0,0) 1.0/0(0,0,4) 1.8/0(9,0,1) 0.13/1(0,0,0) 1.1/1(0,9,0)");
-        TaskWeave y = Checks.with("T(1);b=A0(0);");
+        Weave y = Checks.with("T(1);b=A0(0);");
         y.start(0, 0, 0);
         y.start(4, 0, 0);
         y.replica(0, 0, 0);
@@ -256,7 +238,7 @@ public final class ElectionTest {
     }
 
     private static void tasksAgain() {
-        TaskWeave x = Checks.with("b=A0(8);c=A1(9);E(c);");
+        Weave x = Checks.with("b=A0(8);c=A1(9);E(c);");
         x.start(0, 0, 0);
         x.fail(x.poll(0));
         x.tick(2);
@@ -276,7 +258,7 @@ public final class ElectionTest {
     }
 
     private static void outboxAgain() {
-        TaskWeave x = Checks.with("b=C1(0);c=C2(0);S(b,1);d=W;");
+        Weave x = Checks.with("b=C1(0);c=C2(0);S(b,1);d=W;");
         Checks.tell(x, 1, "b=W;c=W;");
         Checks.tell(x, 2, "b=W;c=W;");
         x.start(0, 0, 0);
@@ -296,7 +278,7 @@ public final class ElectionTest {
     }
 
     /** All replicas go down and come up again. */
-    private static void restart(TaskWeave x, int s) {
+    private static void restart(Weave x, int s) {
         for (int r = 0; r < x.shard(s, 2); r++) {
             x.power(s, r, false);
         }
@@ -305,7 +287,7 @@ public final class ElectionTest {
         }
     }
 
-    private static String all(TaskWeave x) {
+    private static String all(Weave x) {
         StringBuilder text = new StringBuilder();
         for (int w = 0; w < 64; w++) {
             for (int what = 0; what < 7 && x.workflow(w, 0) >= 0; what++) {
@@ -322,7 +304,7 @@ public final class ElectionTest {
         return text.toString();
     }
 
-    private static void same(TaskWeave x, Consumer<TaskWeave> deed) {
+    private static void same(Weave x, Consumer<Weave> deed) {
         String before = all(x);
         deed.accept(x);
         Checks.due("all is as it was", all(x), before);
@@ -343,7 +325,7 @@ public final class ElectionTest {
 
     /** Clients and workers ask again until they are heard; ticks in events are left out, as they may come later. */
     private static String[] tell(int bytes, int s) {
-        TaskWeave x = Checks.with(TALE);
+        Weave x = Checks.with(TALE);
         Checks.tell(x, 1, "b=W;c=A1(a);d=b+c;E(d);");
         if (bytes >= 0) {
             x.fuse(s, 0, bytes);
@@ -359,14 +341,15 @@ public final class ElectionTest {
             x.tick(1);
         }
         Checks.due("it has ended", x.workflow(0, 0), 4);
-        return new String[] {bare(Checks.history(x, 0)), bare(Checks.history(x, 1)), "" + (x.shard(0, 4) + x.shard(1, 4))};
+        int messages = x.shard(0, 4) + x.shard(1, 4);
+        return new String[] {bare(Checks.history(x, 0)), bare(Checks.history(x, 1)), "" + messages};
     }
 
     private static String bare(String history) {
         return history.replaceAll("([45])\\(\\d+,0\\)", "$1").replaceAll("8\\(31,0\\)@1 ", "");
     }
 
-    private static void work(TaskWeave x, int kind, int value) {
+    private static void work(Weave x, int kind, int value) {
         for (int token = x.poll(kind); token > 0; token = x.poll(kind)) {
             x.finish(token, value);
         }

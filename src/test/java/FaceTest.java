@@ -5,9 +5,13 @@ import java.lang.reflect.Method;
 import java.lang.reflect.Modifier;
 import java.util.Arrays;
 import java.util.List;
+import java.util.Set;
 import java.util.TreeSet;
 
-/** The class shows the document's face and nothing else, and its private methods bear other names. */
+/**
+ * The document's "public face", and rule 1 of LANGUAGE.md: the class shows that and nothing else, and its private
+ * methods bear other names.
+ */
 public final class FaceTest {
     private static final String[] FACE = {
         "boolean type(long,int)", "int program(int)", "int fault()", "int start(int,int,int)",
@@ -58,15 +62,20 @@ public final class FaceTest {
         for (String line : FACE) {
             names.add(line.substring(line.indexOf(' ') + 1, line.indexOf('(')));
         }
-        Class<?>[] inside = TaskWeave.class.getDeclaredClasses();
-        Checks.due("at most twelve classes", inside.length < 12, true);
-        for (Class<?> c : inside) {
+        for (Method m : TaskWeave.class.getDeclaredMethods()) {
+            privateName(m, names);
+        }
+        for (Class<?> c : TaskWeave.class.getDeclaredClasses()) {
             Checks.due(c.getName() + " is static", Modifier.isStatic(c.getModifiers()), true);
             Checks.due(c.getName() + " is not public", Modifier.isPublic(c.getModifiers()), false);
             for (Method m : c.getDeclaredMethods()) {
-                Checks.due(c.getName() + "." + m.getName() + " has a name of the face", names.contains(m.getName()),
-                    false);
+                privateName(m, names);
             }
         }
+    }
+
+    private static void privateName(Method m, Set<String> names) {
+        boolean shared = Modifier.isPrivate(m.getModifiers()) && names.contains(m.getName());
+        Checks.due(m + " has a name of the face", shared, false);
     }
 }

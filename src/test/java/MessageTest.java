@@ -19,7 +19,7 @@ public final class MessageTest {
     }
 
     private static void places() {
-        TaskWeave x = Checks.with("b=C0(0);b=C1(1);b=C2(2);b=C3(3);b=C4(4);b=C5(5);b=C6(6);b=C7(7);c=W;");
+        Weave x = Checks.with("b=C0(0);b=C1(1);b=C2(2);b=C3(3);b=C4(4);b=C5(5);b=C6(6);b=C7(7);c=W;");
         for (int p = 1; p < 8; p++) {
             Checks.tell(x, p, "b=W;");
         }
@@ -42,7 +42,7 @@ public final class MessageTest {
     }
 
     private static void unborn() {
-        TaskWeave x = Checks.with("b=C3(0);c=J(0);E(c);");
+        Weave x = Checks.with("b=C3(0);c=J(0);E(c);");
         x.start(0, 0, 0);
         x.tick(1);
         Checks.due("no such program", Checks.history(x, 0), "0(0,0)@0 6(3,0) 7(0,-3) 10(-3,0)");
@@ -52,7 +52,7 @@ public final class MessageTest {
     }
 
     private static void full() {
-        TaskWeave x = Checks.with("b=C1(0);c=J(0);E(c);");
+        Weave x = Checks.with("b=C1(0);c=J(0);E(c);");
         Checks.tell(x, 1, "b=W;");
         for (int n = 0; n < 16; n++) {
             x.start(1 + 4 * n, 1, 0);
@@ -64,12 +64,13 @@ public final class MessageTest {
     }
 
     private static void signalsBothWays() {
-        TaskWeave x = Checks.with("b=C1(5);S(b,71);c=W;d=W;S(b,72);e=J(b);E(e);");
+        Weave x = Checks.with("b=C1(5);S(b,71);c=W;d=W;S(b,72);e=J(b);E(e);");
         Checks.tell(x, 1, "S(-1,81);b=W;S(-1,b);S(-1,82);c=W;E(c);");
         x.start(3, 0, 0);
         Checks.due("messages", x.shard(3, 4), 2);
         x.tick(1);
-        Checks.due("the child, behind the tick", Checks.history(x, 0), "0(1,5)@-193 9(-1,81) 8(71,0)@-195 9(-1,71) 9(-1,82)");
+        Checks.due("the child, behind the tick", Checks.history(x, 0),
+            "0(1,5)@-193 9(-1,81) 8(71,0)@-195 9(-1,71) 9(-1,82)");
         Checks.due("the parent", Checks.history(x, 3), "0(0,0)@3 6(1,5) 9(0,71)");
         Checks.due("messages of the child", x.shard(0, 4), 3);
         x.tick(1);
@@ -84,7 +85,8 @@ public final class MessageTest {
     }
 
     private static void signalsToNone() {
-        TaskWeave x = Checks.with("S(-1,1);S(0,1);S(1,1);b=C1(0);S(-1,2);S(1,2);S(-2,2);S(b,3);c=C5(0);S(c,4);T(3);S(b,5);");
+        Weave x = Checks.with(
+            "S(-1,1);S(0,1);S(1,1);b=C1(0);S(-1,2);S(1,2);S(-2,2);S(b,3);c=C5(0);S(c,4);T(3);S(b,5);");
         Checks.tell(x, 1, "E(0);");
         x.start(0, 0, 0);
         Checks.due("S without such a child is nothing", Checks.history(x, 0),
@@ -99,7 +101,7 @@ public final class MessageTest {
     }
 
     private static void endsToEnded() {
-        TaskWeave x = Checks.with("b=C1(0);E(1);");
+        Weave x = Checks.with("b=C1(0);E(1);");
         Checks.tell(x, 1, "b=A0(0);E(b);");
         x.start(0, 0, 0);
         x.tick(1);
@@ -120,7 +122,7 @@ public final class MessageTest {
 
     /** A message that came behind a shard's turn, or in it, goes in the next tick. */
     private static void turns() {
-        TaskWeave x = Checks.with("b=C0(0);");
+        Weave x = Checks.with("b=C0(0);");
         Checks.tell(x, 1, "b=C1(0);");
         x.start(0, 0, 0);
         int[] counts = {1, 2, 3, 4};
@@ -128,19 +130,19 @@ public final class MessageTest {
             Checks.due("workflows", x.shard(0, 3), counts[i]);
             x.tick(1);
         }
-        TaskWeave y = Checks.with("b=C1(0);");
+        Weave y = Checks.with("b=C1(0);");
         Checks.tell(y, 1, "b=C1(0);");
         y.start(0, 0, 0);
         y.tick(1);
-        Checks.due("shard 1 had its turn behind shard 0, and so on", y.shard(1, 3) * 100 + y.shard(2, 3) * 10 + y.shard(3, 3),
-            111);
+        Checks.due("shard 1 had its turn behind shard 0, and so on",
+            y.shard(1, 3) * 100 + y.shard(2, 3) * 10 + y.shard(3, 3), 111);
         Checks.due("shard 0 had its turn", y.shard(0, 3), 2);
         Checks.due("its message", y.shard(0, 4), 2);
     }
 
     /** The OVER that a signal makes in its sender's own shard is a message, too: the first behind the others. */
     private static void messageOfTheTurn() {
-        TaskWeave x = Checks.with("b=C4(0);c=W;S(b,c);d=J(b);E(d);");
+        Weave x = Checks.with("b=C4(0);c=W;S(b,c);d=J(b);E(d);");
         Checks.tell(x, 4, "b=A0(0);");
         x.start(0, 0, 0);
         x.tick(1);
@@ -158,7 +160,7 @@ public final class MessageTest {
     }
 
     private static void targetDown() {
-        TaskWeave x = Checks.with("b=C1(0);c=C2(0);S(b,9);d=W;");
+        Weave x = Checks.with("b=C1(0);c=C2(0);S(b,9);d=W;");
         Checks.tell(x, 1, "b=W;S(-1,b);");
         Checks.tell(x, 2, "b=W;");
         x.start(0, 0, 0);
@@ -175,7 +177,7 @@ public final class MessageTest {
     }
 
     private static void eventNotDone() {
-        TaskWeave x = Checks.with("b=C1(0);c=J(b);E(c);");
+        Weave x = Checks.with("b=C1(0);c=J(b);E(c);");
         Checks.tell(x, 1, "E(4);");
         x.start(0, 0, 0);
         x.fuse(1, 0, 8);
@@ -187,7 +189,7 @@ public final class MessageTest {
         Checks.due("it is done now", Checks.history(x, 1), "0(1,0)@-1 10(4,0)");
         Checks.due("the parent's end", x.workflow(0, 1), 4);
         Checks.due("no message", x.shard(0, 4) + x.shard(1, 4), 0);
-        TaskWeave y = Checks.with("b=C1(0);c=J(b);E(c);");
+        Weave y = Checks.with("b=C1(0);c=J(b);E(c);");
         Checks.tell(y, 1, "E(4);");
         y.start(0, 0, 0);
         y.fuse(1, 1, 8);
@@ -203,7 +205,7 @@ public final class MessageTest {
     }
 
     private static void goneNotDone() {
-        TaskWeave x = Checks.with("b=C1(0);c=C2(0);S(b,3);S(c,4);d=W;");
+        Weave x = Checks.with("b=C1(0);c=C2(0);S(b,3);S(c,4);d=W;");
         Checks.tell(x, 1, "b=W;c=W;");
         Checks.tell(x, 2, "b=W;c=W;");
         x.start(0, 0, 0);
@@ -215,7 +217,7 @@ public final class MessageTest {
         x.tick(1);
         Checks.due("it is gone", Checks.record(x, 0, 1, 9), "0.14/1(1,0,0)");
         Checks.due("it began once", x.shard(1, 3) * 10 + x.shard(2, 3), 11);
-        TaskWeave y = Checks.with("b=C1(0);S(b,3);d=W;");
+        Weave y = Checks.with("b=C1(0);S(b,3);d=W;");
         Checks.tell(y, 1, "b=W;c=W;");
         y.start(0, 0, 0);
         y.fuse(0, 0, 31);
@@ -228,7 +230,7 @@ public final class MessageTest {
 
     /** Its shard works again at once, but the child is none when the signal has its turn. */
     private static void signalBehindAStartThatStays() {
-        TaskWeave x = Checks.with("b=C1(0);S(b,3);c=W;");
+        Weave x = Checks.with("b=C1(0);S(b,3);c=W;");
         Checks.tell(x, 1, "b=W;");
         x.start(0, 0, 0);
         x.fuse(1, 0, 8);
@@ -240,7 +242,7 @@ public final class MessageTest {
     }
 
     private static void startOfAnEndedParent() {
-        TaskWeave x = Checks.with("b=C1(0);c=C3(0);");
+        Weave x = Checks.with("b=C1(0);c=C3(0);");
         Checks.tell(x, 1, "b=W;");
         x.start(0, 0, 0);
         x.tick(1);
@@ -250,7 +252,7 @@ public final class MessageTest {
     }
 
     private static void parentIsFull() {
-        TaskWeave x = Checks.with("b=C1(0);c=W;0:c=W;G0;");
+        Weave x = Checks.with("b=C1(0);c=W;0:c=W;G0;");
         Checks.tell(x, 1, "T(1);E(6);");
         x.start(0, 0, 0);
         for (int i = 0; i < 57; i++) {

@@ -15,10 +15,16 @@ public final class ModelTest {
         "b=C4(3);T(1);S(b,1);S(b,2);c=J(b);d=J(b);E(d);", "b=W;c=A3(b);S(-1,c);T(c);d=W;E(d);",
     };
 
+    private static final int[] EDGES = {
+        0, 1, 2, 3, 4, 5, 6, -1, 7, 8, 9, 10, 15, 16, 17, 31, 32, 59, 60, 61, 63, 64, 255, 256, 299, 300, 301, 499, 500,
+        501, 511, 512, 4194304, 8388608, 99999, 100000, 100001, -2, -3, -4, -64, -65, Integer.MAX_VALUE - 1,
+        Integer.MAX_VALUE, Integer.MIN_VALUE, Integer.MIN_VALUE + 1, 0x21212121, 0x7E7E7E7E,
+    };
+
     private static final String SIGNS = "abhiACEGIJSTW0123789:;=+-*<(),x!";
 
     private final Random random;
-    private final TaskWeave x = new TaskWeave();
+    private final Weave x = new Weave();
     private final Model y = new Model();
     private final List<Integer> tokens = new ArrayList<>(List.of(0, 1));
     private final StringBuilder told = new StringBuilder();
@@ -121,7 +127,47 @@ public final class ModelTest {
             && same("fault()", x::fault, y::fault);
     }
 
+    /** Any call with numbers from the edges of all that the document names, and from far beyond them. */
+    private boolean edgeCall() {
+        int a = edge();
+        int b = edge();
+        int c = edge();
+        int d = edge();
+        boolean up = random.nextBoolean();
+        return switch (random.nextInt(20)) {
+            case 0 -> same("type(" + d + "," + a + ")", () -> x.type(d, a), () -> y.type(d, a));
+            case 1 -> same("program(" + a + ")", () -> x.program(a), () -> y.program(a));
+            case 2 -> same("start(" + a + "," + b + "," + c + ")", () -> x.start(a, b, c), () -> y.start(a, b, c));
+            case 3 -> same("signal(" + a + "," + b + "," + c + ")", () -> x.signal(a, b, c), () -> y.signal(a, b, c));
+            case 4 -> same("cancel(" + a + ")", () -> x.cancel(a), () -> y.cancel(a));
+            case 5 -> same("query(" + a + "," + b + ")", () -> x.query(a, b), () -> y.query(a, b));
+            case 6 -> same("poll(" + a + ")", () -> x.poll(a), () -> y.poll(a));
+            case 7 -> same("beat(" + a + ")", () -> x.beat(a), () -> y.beat(a));
+            case 8 -> same("finish(" + a + "," + b + ")", () -> x.finish(a, b), () -> y.finish(a, b));
+            case 9 -> same("fail(" + a + ")", () -> x.fail(a), () -> y.fail(a));
+            case 10 -> same("task(" + a + "," + b + ")", () -> x.task(a, b), () -> y.task(a, b));
+            case 11 -> same("tick(" + a + ")", () -> x.tick(a), () -> y.tick(a));
+            case 12 -> same("replicas(" + a + "," + b + ")", () -> x.replicas(a, b), () -> y.replicas(a, b));
+            case 13 -> same("power(" + a + "," + b + "," + up + ")", () -> x.power(a, b, up), () -> y.power(a, b, up));
+            case 14 -> same("fuse(" + a + "," + b + "," + c + ")", () -> x.fuse(a, b, c), () -> y.fuse(a, b, c));
+            case 15 -> same("workflow(" + a + "," + b + ")", () -> x.workflow(a, b), () -> y.workflow(a, b));
+            case 16 -> same("event(" + a + "," + b + "," + c + ")", () -> x.event(a, b, c), () -> y.event(a, b, c));
+            case 17 -> same("shard(" + a + "," + b + ")", () -> x.shard(a, b), () -> y.shard(a, b));
+            case 18 -> same("replica(" + a + "," + b + "," + c + ")", () -> x.replica(a, b, c),
+                () -> y.replica(a, b, c));
+            default -> same("disk(" + a + "," + b + "," + c + "," + d + ")", () -> x.disk(a, b, c, d),
+                () -> y.disk(a, b, c, d));
+        };
+    }
+
+    private int edge() {
+        return EDGES[random.nextInt(random.nextInt(3) > 0 ? 8 : EDGES.length)];
+    }
+
     private boolean chanceCall() {
+        if (random.nextInt(5) == 0) {
+            return edgeCall();
+        }
         int w = random.nextInt(random.nextInt(8) == 0 ? 64 : 16);
         int s = random.nextInt(4);
         int r = random.nextInt(random.nextInt(6) == 0 ? 6 : 3);

@@ -18,7 +18,7 @@ public final class ReplicaTest {
     }
 
     private static void numbers() {
-        TaskWeave x = new TaskWeave();
+        Weave x = new Weave();
         for (int s : new int[] {-1, 4, MIN, MAX}) {
             Checks.due("no shard " + s, x.replicas(s, 3), false);
         }
@@ -36,7 +36,7 @@ public final class ReplicaTest {
     }
 
     private static void onlyAtFirst() {
-        TaskWeave x = Checks.with("b=W;");
+        Weave x = Checks.with("b=W;");
         x.start(0, 0, 0);
         Checks.due("it has a record", x.replicas(0, 3), false);
         Checks.due("another shard", x.replicas(1, 4), true);
@@ -56,7 +56,7 @@ public final class ReplicaTest {
     }
 
     private static void oneRecordOrATermAlone() {
-        TaskWeave x = Checks.with("b=W;");
+        Weave x = Checks.with("b=W;");
         x.fuse(0, 1, 0);
         x.fuse(0, 2, 0);
         Checks.due("not done", x.start(0, 0, 0), -1);
@@ -75,7 +75,7 @@ public final class ReplicaTest {
     }
 
     private static void renewed() {
-        TaskWeave x = Checks.with("E(2);");
+        Weave x = Checks.with("E(2);");
         x.replicas(0, 5);
         x.fuse(0, 0, 12);
         x.fuse(0, 4, 10);
@@ -98,7 +98,7 @@ public final class ReplicaTest {
     }
 
     private static void powerArguments() {
-        TaskWeave x = new TaskWeave();
+        Weave x = new Weave();
         for (boolean up : new boolean[] {true, false}) {
             for (int s : new int[] {-1, 4, MIN, MAX}) {
                 Checks.due("no shard " + s, x.power(s, 0, up), false);
@@ -118,7 +118,7 @@ public final class ReplicaTest {
 
     private static void majorities() {
         for (int n = 3; n <= 5; n++) {
-            TaskWeave x = Checks.with("E(1);");
+            Weave x = Checks.with("E(1);");
             x.replicas(2, n);
             int most = n / 2 + 1;
             for (int left = n - 1; left >= most; left--) {
@@ -147,7 +147,7 @@ public final class ReplicaTest {
     }
 
     private static void comesUp() {
-        TaskWeave x = Checks.with("b=W;c=W;d=W;");
+        Weave x = Checks.with("b=W;c=W;d=W;");
         x.start(0, 0, 0);
         x.fuse(0, 2, 21);
         x.signal(1, 0, 5);
@@ -171,7 +171,7 @@ public final class ReplicaTest {
     }
 
     private static void fuseArguments() {
-        TaskWeave x = new TaskWeave();
+        Weave x = new Weave();
         for (int s : new int[] {-1, 4, MIN, MAX}) {
             Checks.due("no shard " + s, x.fuse(s, 0, 1), false);
         }
@@ -192,7 +192,7 @@ public final class ReplicaTest {
 
     private static void fusesByBytes() {
         for (int bytes = 0; bytes <= 32; bytes++) {
-            TaskWeave x = Checks.with("b=W;");
+            Weave x = Checks.with("b=W;");
             x.fuse(0, 2, bytes);
             x.start(0, 0, 0);
             boolean down = bytes < 16;
@@ -207,7 +207,7 @@ public final class ReplicaTest {
     }
 
     private static void fusesGo() {
-        TaskWeave x = Checks.with("E(0);");
+        Weave x = Checks.with("E(0);");
         x.fuse(0, 1, 50);
         x.start(0, 0, 0);
         Checks.due("the fuse is shorter", x.replica(0, 1, 3), 18);

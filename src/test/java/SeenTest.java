@@ -15,14 +15,14 @@ public final class SeenTest {
         Checks.end();
     }
 
-    private static void dueWorkflow(TaskWeave x, int w, int... want) {
+    private static void dueWorkflow(Weave x, int w, int... want) {
         for (int what = 0; what < 7; what++) {
             Checks.due("workflow(" + w + ", " + what + ")", x.workflow(w, what), want[what]);
         }
     }
 
     private static void workflows() {
-        TaskWeave x = new TaskWeave();
+        Weave x = new Weave();
         Checks.tell(x, 2, "b=A0(0);");
         Checks.tell(x, 3, "T(5);E(a);");
         Checks.tell(x, 4, "b=W;c=C3(9);d=C0(0);e=J(c);f=J(d);E(-7);");
@@ -52,7 +52,7 @@ public final class SeenTest {
     }
 
     private static void lastWorked() {
-        TaskWeave x = Checks.with("b=W;c=A0(b);d=C1(0);E(5);");
+        Weave x = Checks.with("b=W;c=A0(b);d=C1(0);E(5);");
         x.start(0, 0, 0);
         x.fuse(0, 1, 0);
         x.fuse(0, 2, 0);
@@ -73,7 +73,7 @@ public final class SeenTest {
     }
 
     private static void events() {
-        TaskWeave x = Checks.with("b=W;E(b);");
+        Weave x = Checks.with("b=W;E(b);");
         x.start(1, 0, -3);
         x.signal(6, 1, 44);
         int[][] want = {{0, 0, -3, 1}, {8, 44, 0, 6}, {10, 44, 0, 0}};
@@ -100,7 +100,7 @@ public final class SeenTest {
     }
 
     private static void shards() {
-        TaskWeave x = Checks.with("b=C2(0);c=A0(0);");
+        Weave x = Checks.with("b=C2(0);c=A0(0);");
         x.replicas(1, 4);
         x.start(1, 0, 0);
         x.start(5, 0, 0);
@@ -131,7 +131,7 @@ public final class SeenTest {
     }
 
     private static void replicas() {
-        TaskWeave x = Checks.with("b=W;");
+        Weave x = Checks.with("b=W;");
         x.fuse(2, 1, 40);
         x.fuse(2, 2, 9);
         x.start(2, 0, 0);
@@ -150,7 +150,7 @@ public final class SeenTest {
     }
 
     private static void disks() {
-        TaskWeave x = new TaskWeave();
+        Weave x = new Weave();
         for (int version = 0; version < 3; version++) {
             Checks.tell(x, 6, "0:b=W;G0;");
         }
@@ -183,7 +183,7 @@ public final class SeenTest {
     }
 
     private static void goneBytes() {
-        TaskWeave x = Checks.with("b=W;c=W;d=W;");
+        Weave x = Checks.with("b=W;c=W;d=W;");
         x.start(0, 0, 0);
         x.fuse(0, 1, 5);
         x.signal(1, 0, 9);
@@ -195,7 +195,7 @@ public final class SeenTest {
         Checks.due("it is alone", x.shard(0, 0), -1);
         Checks.due("they are gone", x.disk(0, 1, 0, 16), 0);
         Checks.due("bytes", x.replica(0, 1, 2), 0);
-        TaskWeave y = Checks.with("b=W;");
+        Weave y = Checks.with("b=W;");
         y.fuse(0, 2, 1);
         y.start(0, 0, 0);
         Checks.due("a byte of a block", y.disk(0, 2, 0, 0), 0);

@@ -15,7 +15,7 @@ public final class StepsTest {
     }
 
     private static int endOf(String text, int argument) {
-        TaskWeave x = Checks.with(text);
+        Weave x = Checks.with(text);
         Checks.due("start", x.start(0, 0, argument), 0);
         Checks.due(text + " has ended", x.workflow(0, 0), 4);
         return x.workflow(0, 1);
@@ -37,7 +37,7 @@ public final class StepsTest {
         Checks.due("= of others", endOf("b=a=5;E(b);", 6), 0);
         Checks.due("five digits", endOf("b=-99999;E(b);", 0), -99999);
         Checks.due("a local from itself", endOf("a=a*a;E(a);", 9), 81);
-        TaskWeave x = Checks.with("b=1;c=2;d=3;e=4;f=5;g=6;h=7;b=W;");
+        Weave x = Checks.with("b=1;c=2;d=3;e=4;f=5;g=6;h=7;b=W;");
         x.start(1, 0, -9);
         int[] locals = {-9, 1, 2, 3, 4, 5, 6, 7};
         for (int v = 0; v < 8; v++) {
@@ -53,7 +53,7 @@ public final class StepsTest {
     }
 
     private static void ends() {
-        TaskWeave x = Checks.with("");
+        Weave x = Checks.with("");
         Checks.due("start", x.start(0, 0, 5), 0);
         Checks.due("no steps", Checks.history(x, 0), "0(0,5)@0 10(0,0)");
         Checks.tell(x, 0, "a=3;");
@@ -67,7 +67,7 @@ public final class StepsTest {
     }
 
     private static void timers() {
-        TaskWeave x = Checks.with("T(a);T(-7);T(0);E(1);");
+        Weave x = Checks.with("T(a);T(-7);T(0);E(1);");
         x.tick(3);
         x.start(0, 0, 4);
         Checks.due("it waits for time", x.workflow(0, 0), 1);
@@ -87,7 +87,7 @@ public final class StepsTest {
     }
 
     private static void signals() {
-        TaskWeave x = Checks.with("b=W;c=A0(0);d=W;e=W;E(e);");
+        Weave x = Checks.with("b=W;c=A0(0);d=W;e=W;E(e);");
         x.start(2, 0, 0);
         Checks.due("it waits for a signal", x.workflow(2, 0), 2);
         x.signal(1, 2, 11);
@@ -106,7 +106,7 @@ public final class StepsTest {
     }
 
     private static void children() {
-        TaskWeave x = Checks.with("b=J(0);b=C1(5);c=C1(6);d=J(2);e=J(-1);f=J(c);g=J(c);E(f);");
+        Weave x = Checks.with("b=J(0);b=C1(5);c=C1(6);d=J(2);e=J(-1);f=J(c);g=J(c);E(f);");
         Checks.tell(x, 1, "a=a*2;E(a);");
         x.start(0, 0, 0);
         Checks.due("J without such a child", x.query(0, 3), -1);
@@ -123,7 +123,7 @@ public final class StepsTest {
     }
 
     private static void twoHundredSteps() {
-        TaskWeave x = Checks.with("0:a=a+1;G0;");
+        Weave x = Checks.with("0:a=a+1;G0;");
         x.start(0, 0, 0);
         Checks.due("a loop without end", Checks.history(x, 0), "0(0,0)@0 12(-1,0)");
         Checks.due("200 steps", x.query(0, 0), 100);
@@ -150,7 +150,7 @@ public final class StepsTest {
     }
 
     private static void countsAnewBehindWaits() {
-        TaskWeave x = Checks.with("0:a=a-1;I(a)0;c=A0(0);a=100;1:a=a-1;I(a)1;T(0);a=99;2:a=a-1;I(a)2;d=1;E(5);");
+        Weave x = Checks.with("0:a=a-1;I(a)0;c=A0(0);a=100;1:a=a-1;I(a)1;T(0);a=99;2:a=a-1;I(a)2;d=1;E(5);");
         x.start(0, 0, 99);
         x.finish(x.poll(0), 1);
         Checks.due("201 steps since it waited", x.workflow(0, 1), -1);
@@ -181,7 +181,7 @@ public final class StepsTest {
         x.signal(1, 24, 0);
         Checks.due("a W that waited isn't", x.workflow(24, 1), 6);
         for (int early = 0; early < 2; early++) {
-            TaskWeave y = Checks.with("b=C1(0);c=A0(0);d=J(b);0:a=a-1;I(a)0;e=1;E(d);");
+            Weave y = Checks.with("b=C1(0);c=A0(0);d=J(b);0:a=a-1;I(a)0;e=1;E(d);");
             Checks.tell(y, 1, "b=W;E(b);");
             y.start(0, 0, 99);
             y.tick(1);
@@ -195,7 +195,7 @@ public final class StepsTest {
     }
 
     private static void sixtiethEvent() {
-        TaskWeave x = Checks.with("0:b=C7(0);a=a-1;I(a)0;E(5);");
+        Weave x = Checks.with("0:b=C7(0);a=a-1;I(a)0;E(5);");
         x.start(0, 0, 58);
         Checks.due("58 children and an end", x.workflow(0, 2), 60);
         Checks.due("its end", x.workflow(0, 1), 5);
@@ -220,7 +220,7 @@ public final class StepsTest {
     }
 
     private static void sixtiethFromOutside() {
-        TaskWeave x = Checks.with("b=A0(3);E(b);");
+        Weave x = Checks.with("b=A0(3);E(b);");
         for (int w = 0; w < 16; w += 4) {
             x.start(w, 0, 0);
             for (int i = 0; i < 57; i++) {

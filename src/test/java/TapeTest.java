@@ -16,7 +16,7 @@ public final class TapeTest {
     }
 
     private static void newObject() {
-        TaskWeave x = new TaskWeave();
+        Weave x = new Weave();
         Checks.due("fault of a new object", x.fault(), -1);
         for (int p = -1; p <= 8; p++) {
             Checks.due("start of program " + p, x.start(0, p, 0), -1);
@@ -42,14 +42,14 @@ public final class TapeTest {
         }
         Checks.due("poll", x.poll(0), -1);
         Checks.due("the clock was 0", x.tick(1), 1);
-        TaskWeave other = Checks.with("E(1);");
+        Weave other = Checks.with("E(1);");
         Checks.due("start", other.start(0, 0, 0), 0);
         Checks.due("another object's workflow", x.workflow(0, 0), -1);
         Checks.due("another object's clock", other.tick(1), 1);
     }
 
     private static void words() {
-        TaskWeave x = new TaskWeave();
+        Weave x = new Weave();
         Checks.due("n 0", x.type(Checks.word("E(1);"), 0), false);
         Checks.due("n 9", x.type(Checks.word("E(1);"), 9), false);
         Checks.due("n -1", x.type(Checks.word("E(1);"), -1), false);
@@ -78,7 +78,7 @@ public final class TapeTest {
     }
 
     private static void tapeLength() {
-        TaskWeave x = new TaskWeave();
+        Weave x = new Weave();
         Checks.put(x, LONGEST_STEPS + "x".repeat(55));
         Checks.due("six more would be 301", x.type(Checks.word("yyyyyy"), 6), false);
         Checks.due("five more are 300", x.type(Checks.word("yyyyy"), 5), true);
@@ -88,7 +88,7 @@ public final class TapeTest {
     }
 
     private static void goodTexts() {
-        TaskWeave x = new TaskWeave();
+        Weave x = new Weave();
         String[] good = {
             "", "a=b;", "h=-99999;", "a=1--2;", "a=1+-2;", "a=-1*-1;", "c=a<b;", "c=a=b;", "c=1=1;", "d=A0(1);",
             "d=A9(-5);", "d=W;", "e=C0(a);", "e=C7(0);", "f=J(0);", "T(5);", "T(-1);", "S(0,1);", "S(a,-3);", "E(h);",
@@ -102,17 +102,17 @@ public final class TapeTest {
         Checks.due("ten labels", Checks.tell(x, 3, digits), 10);
     }
 
-    private static void faultAt(TaskWeave x, String text, int want) {
+    private static void faultAt(Weave x, String text, int want) {
         Checks.put(x, text);
         Checks.dueThrown("program of " + text, IllegalArgumentException.class, () -> x.program(0));
         Checks.due("fault of " + text, x.fault(), want);
     }
 
     private static void faults() {
-        TaskWeave x = new TaskWeave();
+        Weave x = new Weave();
         Object[][] all = {
-            {"a", 1}, {"a=", 2}, {"a=1", 3}, {"E(1)", 4}, {"E(1);;", 5}, {";", 0}, {"i=1;", 0}, {"A=1;", 0}, {"a+1;", 1},
-            {"a==1;", 2}, {"a=i;", 2}, {"a=123456;", 7}, {"a=-123456;", 8}, {"a=-;", 3}, {"a=--1;", 3}, {"a=-a;", 3},
+            {"a", 1}, {"a=", 2}, {"a=1", 3}, {"E(1)", 4}, {"E(1);;", 5}, {";", 0}, {"i=1;", 0}, {"A=1;", 0},
+            {"a+1;", 1}, {"a==1;", 2}, {"a=i;", 2}, {"a=123456;", 7}, {"a=-123456;", 8}, {"a=-;", 3}, {"a=--1;", 3}, {"a=-a;", 3},
             {"a=1+;", 4}, {"a=1+2+3;", 5}, {"a=1>2;", 3}, {"a=1/2;", 3}, {"a=a1;", 3}, {"a=1a;", 3}, {"a=A;", 3},
             {"a=Aa(1);", 3}, {"a=A1;", 4}, {"a=A1(;", 5}, {"a=A1(1;", 6}, {"a=A1();", 5}, {"a=A12(1);", 4},
             {"a=A1(1+1);", 6}, {"a=w;", 2}, {"a=W(1);", 3}, {"a=WW;", 3}, {"a=C8(1);", 3}, {"a=C9(1);", 3},
@@ -130,7 +130,7 @@ public final class TapeTest {
     }
 
     private static void sixtySteps() {
-        TaskWeave x = new TaskWeave();
+        Weave x = new Weave();
         Checks.due("sixty steps", Checks.tell(x, 0, LONGEST_STEPS), 60);
         faultAt(x, LONGEST_STEPS + "a=1;", 240);
         faultAt(x, LONGEST_STEPS + ")", 240);
@@ -140,7 +140,7 @@ public final class TapeTest {
     }
 
     private static void labels() {
-        TaskWeave x = new TaskWeave();
+        Weave x = new Weave();
         faultAt(x, "1:a=1;1:a=2;", 6);
         faultAt(x, "1:a=1;2:a=1;1:a=2;G3;", 12);
         faultAt(x, "1:a=1;1", 6);
@@ -155,7 +155,7 @@ public final class TapeTest {
     }
 
     private static void programNumbers() {
-        TaskWeave x = new TaskWeave();
+        Weave x = new Weave();
         for (int p = 0; p < 8; p++) {
             Checks.due("program " + p, Checks.tell(x, p, "E(" + p + ");"), 1);
         }
@@ -174,7 +174,7 @@ public final class TapeTest {
     }
 
     private static void versions() {
-        TaskWeave x = Checks.with("b=W;E(1);");
+        Weave x = Checks.with("b=W;E(1);");
         x.start(0, 0, 3);
         faultAt(x, "E(2)", 4);
         x.start(4, 0, 3);

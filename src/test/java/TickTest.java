@@ -12,7 +12,7 @@ public final class TickTest {
     }
 
     private static void numbers() {
-        TaskWeave x = new TaskWeave();
+        Weave x = new Weave();
         for (int n : new int[] {0, -1, 501, Integer.MIN_VALUE, Integer.MAX_VALUE}) {
             Checks.dueThrown("tick(" + n + ")", IllegalArgumentException.class, () -> x.tick(n));
         }
@@ -23,7 +23,7 @@ public final class TickTest {
 
     /** The order shows in the log: each timer goes on ahead of the next one. */
     private static void timersByNumbers() {
-        TaskWeave x = Checks.with("T(a);b=A0(0);");
+        Weave x = Checks.with("T(a);b=A0(0);");
         x.start(0, 0, 3);
         x.start(4, 0, 2);
         x.start(8, 0, 3);
@@ -35,7 +35,7 @@ public final class TickTest {
     }
 
     private static void timersAheadOfLeases() {
-        TaskWeave x = Checks.with("b=A0(0);");
+        Weave x = Checks.with("b=A0(0);");
         Checks.tell(x, 1, "T(10);E(1);");
         x.start(0, 0, 0);
         x.start(4, 0, 0);
@@ -48,7 +48,7 @@ public final class TickTest {
     }
 
     private static void oneTurnInATick() {
-        TaskWeave x = Checks.with("0:T(0);G0;");
+        Weave x = Checks.with("0:T(0);G0;");
         x.start(0, 0, 0);
         for (int i = 1; i <= 5; i++) {
             x.tick(1);
@@ -58,7 +58,7 @@ public final class TickTest {
 
     /** Workflow 0's timer is not done; the election brings what it had, and the tick goes on with the next one. */
     private static void electionInATick() {
-        TaskWeave x = Checks.with("T(1);b=A0(0);");
+        Weave x = Checks.with("T(1);b=A0(0);");
         x.start(0, 0, 0);
         x.start(4, 0, 0);
         x.fuse(0, 0, 1);
@@ -68,7 +68,7 @@ public final class TickTest {
         x.tick(1);
         Checks.due("workflow 0 in the next tick", Checks.history(x, 0), "0(0,0)@0 4(1,0) 5(2,0) 1(0,0)");
         // The TIMER of workflow 4 is not done, but lies on the leader's disk: it waits since the election.
-        TaskWeave y = Checks.with("T(a);T(0);E(3);");
+        Weave y = Checks.with("T(a);T(0);E(3);");
         y.start(0, 0, 1);
         y.fuse(0, 1, 16);
         y.fuse(0, 2, 16);
@@ -85,7 +85,7 @@ public final class TickTest {
     }
 
     private static void noLeader() {
-        TaskWeave x = Checks.with("T(2);E(1);");
+        Weave x = Checks.with("T(2);E(1);");
         x.start(0, 0, 0);
         x.start(1, 0, 0);
         x.power(0, 0, false);
@@ -99,8 +99,8 @@ public final class TickTest {
         Checks.due("fired at", x.event(0, 2, 1), 6);
     }
 
-    private static TaskWeave busy() {
-        TaskWeave x = Checks.with("0:T(a);b=C1(b);c=J(b);I(c)0;E(b);");
+    private static Weave busy() {
+        Weave x = Checks.with("0:T(a);b=C1(b);c=J(b);I(c)0;E(b);");
         Checks.tell(x, 1, "T(7);b=A0(a);S(-1,b);T(9);E(b);");
         for (int request = 0; request < 8; request++) {
             x.start(request, 0, 3 * request);
@@ -111,8 +111,8 @@ public final class TickTest {
     }
 
     private static void manyTicksAreOneByOne() {
-        TaskWeave x = busy();
-        TaskWeave y = busy();
+        Weave x = busy();
+        Weave y = busy();
         for (int round = 0; round < 6; round++) {
             for (int i = 0; i < 3; i++) {
                 int token = x.poll(0);

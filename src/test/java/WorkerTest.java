@@ -12,7 +12,7 @@ public final class WorkerTest {
     }
 
     private static void order() {
-        TaskWeave x = Checks.with("0:b=A3(a);G0;");
+        Weave x = Checks.with("0:b=A3(a);G0;");
         x.start(3, 0, 33);
         x.start(2, 0, 22);
         x.tick(1);
@@ -39,7 +39,7 @@ public final class WorkerTest {
     }
 
     private static void leases() {
-        TaskWeave x = Checks.with("b=A0(a);E(b);");
+        Weave x = Checks.with("b=A0(a);E(b);");
         x.tick(5);
         x.start(1, 0, -77);
         Checks.due("tasks", x.shard(1, 5) * 10 + x.shard(1, 6), 10);
@@ -69,7 +69,7 @@ public final class WorkerTest {
     }
 
     private static void beats() {
-        TaskWeave x = Checks.with("b=A0(a);E(b);");
+        Weave x = Checks.with("b=A0(a);E(b);");
         x.start(0, 0, 0);
         x.poll(0);
         x.tick(9);
@@ -91,7 +91,7 @@ public final class WorkerTest {
     }
 
     private static void failures() {
-        TaskWeave x = Checks.with("b=A0(a);c=A1(b);E(c);");
+        Weave x = Checks.with("b=A0(a);c=A1(b);E(c);");
         x.tick(1);
         x.start(0, 0, 4);
         int[] waits = {2, 4, 8};
@@ -119,7 +119,7 @@ public final class WorkerTest {
 
     /** One that failed stands behind those that have been ready longer. */
     private static void tries() {
-        TaskWeave x = Checks.with("0:b=A0(a);G0;");
+        Weave x = Checks.with("0:b=A0(a);G0;");
         x.start(0, 0, 0);
         x.fail(x.poll(0));
         x.tick(1);
@@ -134,7 +134,7 @@ public final class WorkerTest {
     }
 
     private static void notDone() {
-        TaskWeave x = Checks.with("b=A0(a);E(b);");
+        Weave x = Checks.with("b=A0(a);E(b);");
         x.start(0, 0, 0);
         x.poll(0);
         x.fuse(0, 0, 5);
@@ -161,7 +161,7 @@ public final class WorkerTest {
     }
 
     private static void leasesEndWithTheLeader() {
-        TaskWeave x = Checks.with("b=A0(a);E(b);");
+        Weave x = Checks.with("b=A0(a);E(b);");
         x.start(0, 0, 0);
         x.start(4, 0, 0);
         x.fail(x.poll(0));
