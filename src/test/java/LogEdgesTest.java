@@ -616,6 +616,67 @@ public final class LogEdgesTest {
         Checks.due("the log", Checks.log(x, 0, 4), "0.0/0(0,0,0) 0.13/1(1,0,0) 0.13/2(2,0,0) 0.1/2(0,1,0)");
     }
 
+    /** AN ELECTION: "all WORKFLOWS are what their EVENTS ... make them: each STEP gone again", from its beginning. */
+    private static void electionEachStepGoneAgain() {
+        Weave x = Checks.with("b=b+1;c=c+b;d=W;b=b*3;e=d+e;d=W;");
+        x.start(0, 0, 4);
+        x.signal(1, 0, 20);
+        int[] want = {4, 3, 1, 20, 20, 0, 0, 0};
+        for (int round = 0; round < 3; round++) {
+            for (int v = 0; v < 8; v++) {
+                Checks.due("local " + v + " of round " + round, x.query(0, v), want[v]);
+            }
+            Checks.due("it waits for a signal", x.workflow(0, 0) * 10 + x.workflow(0, 5), 20);
+            int leader = x.shard(0, 0);
+            x.power(0, leader, false);
+            x.power(0, leader, true);
+        }
+    }
+
+    /** AN ELECTION: numbers of four bytes are read from the log as they were: STARTED, SIGNAL, RESULT, CHILD, TIMER. */
+    private static void electionNumbersOfFourBytes() {
+        for (int number : new int[] {0x01020304, 0x7F80FF01, 0x80000000, 0xFFFEFDFC, 0x00FF0000}) {
+            Weave x = Checks.with("b=W;c=A0(a);d=C1(b);T(c);e=W;");
+            int request = number & MAX & ~3;
+            x.start(request, 0, number);
+            x.signal(number & MAX, 0, number + 1);
+            x.finish(x.poll(0), number + 2);
+            String before = Checks.history(x, 0);
+            x.power(0, 0, false);
+            Checks.due("the history of " + number, Checks.history(x, 0), before);
+            Checks.due("a, b and c", x.query(0, 0) + " " + x.query(0, 1) + " " + x.query(0, 2),
+                number + " " + (number + 1) + " " + (number + 2));
+            Checks.due("the request", x.start(request, 0, 0), 0);
+            Checks.due("the signal's", x.signal(number & MAX, 0, 0), true);
+            Checks.due("no more events", Checks.history(x, 0), before);
+        }
+    }
+
+    /** AN ELECTION: who waits waits, though the new leader goes down while another one GOES ON. */
+    private static void electionTheNewLeaderGoesDown() {
+        Weave x = Checks.with("b=W;c=A0(b);");
+        Checks.tell(x, 1, "b=W;c=W;d=W;");
+        x.replicas(0, 5);
+        x.power(0, 3, false);
+        x.power(0, 4, false);
+        x.start(0, 0, 0);
+        x.start(4, 1, 0);
+        x.signal(1, 4, 5);
+        x.signal(2, 4, 6);
+        x.fuse(0, 0, 24);
+        Checks.due("the leader goes down behind SIGNAL", x.signal(1, 0, 9), true);
+        x.fuse(0, 1, 20);
+        x.power(0, 3, true);
+        Checks.due("so does leader 1 behind LEADER", leaderAndTerm(x), -9);
+        Checks.due("its bytes", x.replica(0, 1, 2), 4);
+        Checks.due("workflow 0 was going on", x.workflow(0, 0), 5);
+        Checks.due("workflow 4 waits for a signal", x.workflow(4, 0), 2);
+        Checks.due("the signals that it took", x.workflow(4, 2) * 10 + x.workflow(4, 5), 30);
+        x.power(0, 4, true);
+        Checks.due("leader 2 of term 2", leaderAndTerm(x), 22);
+        Checks.due("workflow 0 waits for work", x.workflow(0, 0), 0);
+    }
+
     /** AN ELECTION: "a TASK ... is READY since the clock, or since the b of its latest TRIED ... if that is later". */
     private static void electionTasksAreReady() {
         for (int later = 0; later <= 5; later++) {

@@ -204,6 +204,29 @@ public final class TapeEdgesTest {
         good(x, "a=12;".repeat(60), 60);
     }
 
+    /** Promise 3: "The tape ... is PROGRAM p": nothing of an earlier tape, good or not, is left in it. */
+    private static void promise3NothingOfAnEarlierTape() {
+        String[] earlier = {
+            "a=9*9;S(5,6);T(7);7:I(8)7;", "7:a=9*9;S(5,6);T(7);I(8)", "h=A9(9);h=C7(9);G5;5:h=J(9);", "5",
+        };
+        for (String text : earlier) {
+            Weave x = new Weave();
+            Checks.put(x, text);
+            try {
+                x.program(1);
+            } catch (IllegalArgumentException e) {
+                Checks.due("it has a FAULT", x.fault() >= 0, true);
+            }
+            good(x, "a=3;b=a;c=4;E(b);", 4);
+            x.start(0, 0, 0);
+            Checks.due("its end behind " + text, x.workflow(0, 1), 3);
+            Checks.due("c", x.query(0, 2), 4);
+            bad(x, "G7;", 1);
+            bad(x, "G5;", 1);
+            good(x, "5:a=1;7:a=1;", 2);
+        }
+    }
+
     /** Promise 3: "it has a FAULT (the one that there was stays)", also in how many have been told. */
     private static void promise3TheOneThatThereWasStays() {
         Weave x = new Weave();

@@ -267,6 +267,27 @@ public final class TaskEdgesTest {
         Checks.due("events", x.workflow(0, 2), 60);
     }
 
+    /** Promises 11 and 12: the work is done, or given up: its TOKEN has no LEASE any more, whatever comes behind. */
+    private static void promise11And12TheTaskIsNoMore() {
+        for (String behind : new String[] {"c=W;", "T(50);", "c=C1(0);c=J(c);", "c=A0(0);", ""}) {
+            for (int fails = 0; fails <= 4; fails += 4) {
+                Weave x = Checks.with("b=A0(0);" + behind);
+                x.start(0, 0, 0);
+                failed(x, fails);
+                int token = fails == 0 ? x.poll(0) : 4;
+                Checks.due("finish", fails > 0 || x.finish(token, 1), true);
+                int tasks = behind.startsWith("c=A") ? 1 : 0;
+                Checks.due("tasks and leases ahead of " + behind, x.shard(0, 5) * 10 + x.shard(0, 6), tasks * 10);
+                Checks.due("beat", x.beat(token), false);
+                Checks.due("finish", x.finish(token, 2), false);
+                Checks.due("fail", x.fail(token), false);
+                Checks.due("task", x.task(token, 0), -1);
+                x.tick(12);
+                Checks.due("no TRIED", Checks.log(x, 0, 0).split("\\.15/").length, Math.min(fails, 3) + 1);
+            }
+        }
+    }
+
     /** A RECORD IS DONE: "what a call's RECORD led to may be given up, the call is told done all the same". */
     private static void promise11WhatItLedTo() {
         for (int bytes = 16; bytes <= 32; bytes++) {

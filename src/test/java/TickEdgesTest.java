@@ -28,13 +28,47 @@ public final class TickEdgesTest {
     private static void promise14EachTickIsAWholeOne() {
         for (int n = 1; n <= 8; n++) {
             Weave x = Checks.with("0:T(1);b=b+1;G0;");
-            Checks.tell(x, 1, "b=C5(0);");
-            Checks.tell(x, 5, "b=C5(0);");
             x.start(0, 0, 0);
-            x.start(3, 1, 0);
             x.tick(n);
             Checks.due("b", x.query(0, 1), n);
-            Checks.due("generations", x.shard(0, 3) + x.shard(1, 3) + x.shard(2, 3) + x.shard(3, 3), 4 * n - 1);
+            x = Checks.with("");
+            Checks.tell(x, 5, "b=C5(0);");
+            x.start(3, 5, 0);
+            x.tick(n);
+            Checks.due("generations", x.shard(0, 3) + x.shard(1, 3) + x.shard(2, 3) + x.shard(3, 3), 4 * n - 2);
+        }
+    }
+
+    /** Promise 14: what is due in the midst of many ticks comes in its own tick, though nothing came ahead of it. */
+    private static void promise14ManyTicksAtOnce() {
+        Weave x = Checks.with("0:T(100);b=b+1;G0;");
+        x.start(0, 0, 0);
+        x.tick(499);
+        Checks.due("b at 499", x.query(0, 1), 4);
+        x.tick(1);
+        Checks.due("b at 500", x.query(0, 1), 5);
+        Checks.due("fired in its own tick", x.event(0, 4, 1), 200);
+        for (int until : new int[] {10, 11, 12, 100}) {
+            x = Checks.with("b=A0(0);T(3);c=C1(0);d=J(c);T(1);");
+            Checks.tell(x, 1, "T(4);");
+            x.start(0, 0, 0);
+            x.poll(0);
+            x.tick(until);
+            Checks.due("the lease ended in its own tick", Checks.record(x, 0, 0, 2), "0.15/0(2,12,0)");
+            x.power(1, 0, false);
+            x.power(1, 1, false);
+            x.tick(20);
+            x.finish(x.poll(0), 7);
+            x.tick(50);
+            Checks.due("it waits for its child", x.workflow(0, 0), 3);
+            Checks.due("the message waits", x.shard(0, 4), 1);
+            x.power(1, 1, true);
+            x.tick(100);
+            int clock = until + 20;
+            Checks.due("its history", Checks.history(x, 0), "0(0,0)@0 1(0,0) 2(7,0) 4(" + (clock + 3) + ",0) 5("
+                + (clock + 3) + ",0) 6(1,0) 7(0,0) 4(" + (clock + 56) + ",0) 5(" + (clock + 56) + ",0) 10(0,0)");
+            Checks.due("its child's", Checks.history(x, 1),
+                "0(1,0)@-1 4(" + (clock + 55) + ",0) 5(" + (clock + 55) + ",0) 10(0,0)");
         }
     }
 
@@ -402,6 +436,45 @@ public final class TickEdgesTest {
         x.tick(1);
         Checks.due("both are done", Checks.history(x, 1), "0(1,0)@-1 8(6,0)@-4");
         Checks.due("none stays", x.shard(0, 4), 0);
+    }
+
+    /** A TICK: a START to a SHARD that does not WORK stays, though it has 16 workflows, or there is no such PROGRAM. */
+    private static void tickAStartThatCanNotBegin() {
+        for (int n = 0; n <= 16; n += 16) {
+            Weave x = Checks.with("b=C1(5);c=J(b);E(c);");
+            Checks.tell(x, 2, "b=W;");
+            for (int i = 0; i < n; i++) {
+                x.start(1 + 4 * i, 2, 0);
+            }
+            x.start(0, 0, 0);
+            Checks.stop(x, 1);
+            x.tick(3);
+            Checks.due("it stays", x.shard(0, 4), 1);
+            Checks.due("nothing comes to the parent", Checks.history(x, 0), "0(0,0)@0 6(1,5)");
+            x.power(1, 1, true);
+            x.tick(1);
+            Checks.due("the parent", Checks.history(x, 0), "0(0,0)@0 6(1,5) 7(0,-3) 10(-3,0)");
+        }
+    }
+
+    /** A TICK: a SIGNAL, and an END, to a parent whose SHARD does not WORK stay. */
+    private static void tickTheParentsShardDoesNotWork() {
+        Weave x = Checks.with("b=C1(0);c=W;d=J(b);E(d);");
+        Checks.tell(x, 1, "T(2);S(-1,5);T(1);E(6);");
+        x.start(0, 0, 0);
+        x.tick(1);
+        Checks.stop(x, 0);
+        x.tick(2);
+        Checks.due("a signal stays", x.shard(1, 4), 1);
+        x.tick(3);
+        Checks.due("an end stays", x.shard(1, 4), 2);
+        Checks.due("the parent waits for a signal", x.workflow(0, 0), 2);
+        int records = x.replica(1, 0, 1);
+        x.power(0, 1, true);
+        x.tick(1);
+        Checks.due("both are gone", x.shard(1, 4), 0);
+        Checks.due("records of GONE", x.replica(1, 0, 1), records + 2);
+        Checks.due("the parent", Checks.history(x, 0), "0(0,0)@0 6(1,0) 8(5,0)@-68 7(0,6) 10(6,0)");
     }
 
     /** A TICK: "it is done (also if there is nothing to do)" only if the target WORKS. */

@@ -25,6 +25,18 @@ public final class WorkflowEdgesTest {
             Checks.due("no workflow " + w, x.workflow(w, 0), -1);
         }
         Checks.due("the last one", x.workflow(63, 0), 2);
+        for (int w = 0; w < 64; w++) {
+            Checks.due("a of workflow " + w, x.query(w, 0), w / 4);
+        }
+        Checks.stop(x, 1);
+        for (int w = 0; w < 64; w++) {
+            int one = w;
+            if (w % 4 == 1) {
+                Checks.dueThrown("a of workflow " + w, IllegalStateException.class, () -> x.query(one, 0));
+            } else {
+                Checks.due("a of workflow " + w, x.query(w, 0), w / 4);
+            }
+        }
     }
 
     /** Promise 5: "NONE if ... the SHARD has 16 WORKFLOWS"; those that have ended and children count. */
