@@ -633,6 +633,47 @@ public final class LogEdgesTest {
         }
     }
 
+    /**
+     * AN ELECTION: "(a W or J waits again, if what it wanted came behind all that was there when it was first done)",
+     * else it finds that again: the leader goes down behind a CHILD, and E is the 200th STEP since, or the 201st.
+     */
+    private static void electionAWOrJWaitsAgain() {
+        for (String wants : new String[] {"b=W;", "b=J(c);"}) {
+            for (int waits = 0; waits < 2; waits++) {
+                for (int more = 0; more < 2; more++) {
+                    Weave x = Checks.with("c=C1(0);a=98;e=A0(0);" + wants + "0:a=a-1;I(a)0;d=C2(0);"
+                        + "f=1;".repeat(waits + more) + "g=1;E(7);");
+                    Checks.tell(x, 1, "b=W;E(b);");
+                    x.start(0, 0, 0);
+                    x.tick(1);
+                    x.signal(1, 1, 61);
+                    if (waits == 1) {
+                        x.finish(x.poll(0), 5);
+                        Checks.due("it waits", x.workflow(0, 0), wants.equals("b=W;") ? 2 : 3);
+                        x.fuse(0, 0, 32);
+                        bringWanted(x, wants);
+                    } else {
+                        bringWanted(x, wants);
+                        x.fuse(0, 0, 32);
+                        x.finish(x.poll(0), 5);
+                    }
+                    Checks.due("leader and term", leaderAndTerm(x), 11);
+                    Checks.due("b", x.query(0, 1), wants.equals("b=W;") ? 51 : 61);
+                    Checks.due("its end, behind " + wants + " that waited " + waits, x.workflow(0, 1),
+                        more == 0 ? 7 : -1);
+                }
+            }
+        }
+    }
+
+    private static void bringWanted(Weave x, String wants) {
+        if (wants.equals("b=W;")) {
+            x.signal(1, 0, 51);
+        } else {
+            x.tick(1);
+        }
+    }
+
     /** AN ELECTION: numbers of four bytes are read from the log as they were: STARTED, SIGNAL, RESULT, CHILD, TIMER. */
     private static void electionNumbersOfFourBytes() {
         for (int number : new int[] {0x01020304, 0x7F80FF01, 0x80000000, 0xFFFEFDFC, 0x00FF0000}) {

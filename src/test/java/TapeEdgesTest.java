@@ -161,7 +161,7 @@ public final class TapeEdgesTest {
         for (int n : new int[] {0, 1, 2, 30, 58, 59, 60}) {
             good(new Weave(), "E(1);".repeat(n), n);
         }
-        for (String more : new String[] {"a=1;", "E(1);", ";", "!", "G5;"}) {
+        for (String more : new String[] {"a=1;", "E(1);", ";", "!", "G5;", "5:a=1;", "5"}) {
             bad(new Weave(), "a=1;".repeat(60) + more, 240);
         }
         bad(new Weave(), "T(1);".repeat(30) + "h=W;".repeat(30) + "b", 270);

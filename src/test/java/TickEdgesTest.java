@@ -36,6 +36,12 @@ public final class TickEdgesTest {
             x.start(3, 5, 0);
             x.tick(n);
             Checks.due("generations", x.shard(0, 3) + x.shard(1, 3) + x.shard(2, 3) + x.shard(3, 3), 4 * n - 2);
+            for (int s = 0; s < 4; s++) {
+                x = Checks.with("b=C0(0);");
+                x.start(s, 0, 0);
+                x.tick(n);
+                Checks.due("generations in shard " + s, x.shard(s, 3), n + 1);
+            }
         }
     }
 
@@ -491,6 +497,21 @@ public final class TickEdgesTest {
         Checks.due("it is gone", x.shard(0, 4), 0);
     }
 
+    /** A TICK: an END to a parent that has ended is nothing to do, but waits for that one's SHARD, too. */
+    private static void tickAnEndWaitsForTheTarget() {
+        Weave x = Checks.with("b=C1(0);");
+        Checks.tell(x, 1, "T(2);E(6);");
+        x.start(0, 0, 0);
+        x.tick(1);
+        Checks.stop(x, 0);
+        x.tick(4);
+        Checks.due("it stays", x.workflow(1, 0) * 10 + x.shard(1, 4), 41);
+        x.power(0, 1, true);
+        x.tick(1);
+        Checks.due("it is gone", x.shard(1, 4), 0);
+        Checks.due("the parent", Checks.history(x, 0), "0(0,0)@0 6(1,0) 10(0,0)");
+    }
+
     /** A TICK: "for each SHARD in order that WORKS": a sender that does not work sends nothing. */
     private static void tickTheSenderDoesNotWork() {
         Weave x = Checks.with("b=C1(0);c=W;");
@@ -550,6 +571,50 @@ public final class TickEdgesTest {
             x.tick(1);
             Checks.due("messages", x.shard(0, 4), 0);
             Checks.due("children", x.shard(1, 3) * 10 + x.shard(2, 3), 11);
+        }
+    }
+
+    /** A TICK: "it is done ... then comes its GONE", though what its STARTED led to is given up, in its own SHARD. */
+    private static void tickWhatAMessageLedToInItsOwnShard() {
+        for (int bytes = 15; bytes <= 32; bytes++) {
+            Weave x = Checks.with("b=C4(0);c=W;");
+            Checks.tell(x, 4, "b=A0(0);");
+            x.start(0, 0, 0);
+            x.fuse(0, 0, bytes);
+            x.tick(1);
+            String ahead = "0.0/0(0,0,0) 0.6/0(4,0,0) ";
+            Checks.due("the log with " + bytes, Checks.log(x, 0, 2), ahead + (bytes < 16 ? "0.13/1(1,0,0)"
+                : bytes < 32 ? "1.0/0(4,0,-1) 0.13/1(1,0,0) 1.1/1(0,0,0) 0.14/1(1,0,0)"
+                : "1.0/0(4,0,-1) 1.1/0(0,0,0) 0.13/1(1,0,0)"));
+            Checks.due("messages", x.shard(0, 4), bytes < 16 || bytes == 32 ? 1 : 0);
+            x.tick(1);
+            Checks.due("messages and workflows", x.shard(0, 4) * 10 + x.shard(0, 3), 2);
+        }
+        Weave x = Checks.with("b=C4(0);c=W;");
+        Checks.tell(x, 4, "b=A0(0);");
+        x.start(0, 0, 0);
+        x.power(0, 2, false);
+        x.fuse(0, 1, 16);
+        x.tick(1);
+        Checks.due("it has begun, but its SHARD does not work", x.shard(0, 3) * 10 + x.shard(0, 0), 19);
+        Checks.due("without GONE it stays", x.shard(0, 4), 1);
+        x.power(0, 2, true);
+        x.tick(1);
+        Checks.due("messages and workflows", x.shard(0, 4) * 10 + x.shard(0, 3), 2);
+    }
+
+    /** A TICK: "then comes its GONE", though the SHARD to which it went does not WORK any more by what it led to. */
+    private static void tickWhatAMessageLedToInAnotherShard() {
+        for (int bytes = 15; bytes <= 32; bytes++) {
+            Weave x = Checks.with("b=C1(0);c=W;");
+            Checks.tell(x, 1, "b=A0(0);");
+            x.start(0, 0, 0);
+            x.power(1, 2, false);
+            x.fuse(1, 1, bytes);
+            x.tick(1);
+            Checks.due("the target with " + bytes, x.shard(1, 0), bytes < 32 ? -1 : 0);
+            Checks.due("workflows", x.shard(1, 3), bytes < 16 ? 0 : 1);
+            Checks.due("messages", x.shard(0, 4), bytes < 16 ? 1 : 0);
         }
     }
 
